@@ -443,7 +443,7 @@ public final class Causewaymail {
     }
 
     private boolean followsDropped(Message message) {
-        for (int earlier = 0; earlier < message.id && earlier < sent.size(); earlier++) {
+        for (int earlier = 0; earlier < sent.size(); earlier++) {
             if (sent.get(earlier).dropped && sent.get(earlier).isBefore(message)) {
                 return true;
             }

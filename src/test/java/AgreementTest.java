@@ -74,9 +74,10 @@ final class AgreementTest {
         Check.same("agreed(0), 3 is missing", x.agreed(0), Causewaymail.NONE);
         x.arrive(0, 3);
         Check.same("agreed(0)", x.agreed(0), 2);
-        x.arrive(1, 0);
         x.arrive(1, 2);
         x.arrive(1, 3);
+        Check.same("agreed(1), 0 is missing", x.agreed(1), Causewaymail.NONE);
+        x.arrive(1, 0);
         Check.same("agreed(1)", x.agreed(1), 3);
         Check.outOfBounds("agreed(2)", x, () -> x.agreed(2));
         Check.outOfBounds("agreed(-1)", x, () -> x.agreed(-1));

@@ -64,6 +64,10 @@ final class MessagesTest {
         Check.same("send(2)", x.send(2), 3);
         Check.same("copy of a member out of the view", x.copy(3, 1), Causewaymail.LOST);
         Check.same("copy of a member in the view", x.copy(3, 0), Causewaymail.ON_WAY);
+        x.fail(0);
+        x.flush();
+        Check.same("send(2)", x.send(2), 4);
+        Check.same("copy of 0 out of the view", x.copy(4, 0), Causewaymail.LOST);
     }
 
     private static void sendRefused() {

@@ -32,6 +32,11 @@ final class ViewsTest {
         Check.illegalState("fail(3), the only one alive", x, () -> x.fail(3));
         Check.outOfBounds("fail(4), the index first", x, () -> x.fail(4));
         Check.same("isAlive(3)", x.isAlive(3), true);
+        Group y = new RealGroup();
+        y.fail(3);
+        y.fail(1);
+        y.fail(2);
+        Check.illegalState("fail(0), the only one alive", y, () -> y.fail(0));
     }
 
     private static void failedDoesNothing() {
@@ -84,6 +89,13 @@ final class ViewsTest {
         Check.same("agreed(3)", x.agreed(3), 1);
         Check.same("numberOf(3)", x.numberOf(3), 0);
         Check.outOfBounds("agreedAt(1)", x, () -> x.agreedAt(1));
+        Group y = new RealGroup();
+        y.send(3);
+        y.send(3);
+        y.arrive(1, 0);
+        y.fail(3);
+        Check.same("flush()", y.flush(), 2);
+        Check.same("waiting(0)", y.waiting(0), 0);
     }
 
     private static void waitingKeeps() {
@@ -153,6 +165,14 @@ final class ViewsTest {
         Check.same("numberOf(2)", x.numberOf(2), 2);
         Check.same("ordered(1)", x.ordered(1), 3);
         Check.same("ordered(3)", x.ordered(3), 3);
+        Group y = new RealGroup();
+        y.passToken(2);
+        y.send(2);
+        y.fail(3);
+        y.flush();
+        Check.same("holder() is alive", y.holder(), 2);
+        Check.same("ordered(0), another one is told too", y.ordered(0), 1);
+        Check.same("tell(0)", y.tell(0), 0);
     }
 
     private static void agreeRest() {
