@@ -6,6 +6,7 @@ final class Check {
     interface Call { void run(); }
 
     private static final List<String> wrong = new ArrayList<>();
+    private static final List<String> names = new ArrayList<>();
     private static int passed = 0;
     private static int failed = 0;
 
@@ -13,6 +14,10 @@ final class Check {
 
     static void test(String name, Call test) {
         wrong.clear();
+        if (names.contains(name)) {
+            wrong.add("another test has this name");
+        }
+        names.add(name);
         try {
             test.run();
         } catch (RuntimeException | Error e) {
@@ -83,6 +88,15 @@ final class Check {
 
     static boolean anythingWrong() {
         return !wrong.isEmpty();
+    }
+
+    /** How many tests so far name just this promise. */
+    static int testsOf(int promise) {
+        int count = 0;
+        for (String name : names) {
+            count += name.startsWith("promise " + promise + ": ") ? 1 : 0;
+        }
+        return count;
     }
 
     /** Prints the count and ends the program. */

@@ -4,7 +4,7 @@ final class ViewsTest {
 
     static void all() {
         Check.test("promise 29: fail", ViewsTest::fail);
-        Check.test("promise 29: a failed member does nothing", ViewsTest::failedDoesNothing);
+        Check.test("promise 29: a failed member from its failure to the flush", ViewsTest::failedDoesNothing);
         Check.test("promise 30: flush is refused", ViewsTest::flushRefused);
         Check.test("promise 30: step 1, what is dropped", ViewsTest::drops);
         Check.test("promise 30: step 1, a waiting copy keeps a message", ViewsTest::waitingKeeps);
