@@ -18,6 +18,7 @@ public final class AllTests {
         ViewEdgesTest.all();
         FlushEdgesTest.all();
         RefusalTest.all();
+        ReadmeTest.all();
         LongRunsTest.all();
         Check.test("each promise, 1 to 32, has tests that name it", AllTests::everyPromiseNamed);
         Check.end();
